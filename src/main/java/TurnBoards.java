@@ -916,7 +916,6 @@ public final class TurnBoards {
         void markLines(Walk[] walks, Board board) {
             for (int line = 0; line < MOST_LINES; line++) {
                 used[line] = false;
-                turns[line] = 0;
             }
             for (int w = 0; w < MOST_WALKS; w++) {
                 if (looked[w]) {

@@ -80,6 +80,19 @@ public final class PromisesTest {
         return x;
     }
 
+    /** All POINTS in a row, joined from the last to the first, and all LINES. */
+    private static TurnBoards fullBoard(int kind, int n) {
+        TurnBoards x = withPoints(6);
+        x.group(kind, n);
+        for (int p = 5; p > 0; p--) {
+            x.line(p, p - 1);
+        }
+        for (int i = 0; i < 5; i++) {
+            x.line(i, i);
+        }
+        return x;
+    }
+
     private static void layAll(TurnBoards x, int k, int from, int... cells) {
         for (int i = 0; i < cells.length; i++) {
             due.is("lay", x.lay(k, from + i, cells[i]), 1);
@@ -197,6 +210,10 @@ public final class PromisesTest {
         due.is("undo()", x.undo(), -4);
         due.is("points stay", x.many(0), 3);
         due.is("walks stay", x.told(0, 0), 3);
+        TurnBoards full = fullBoard(0, 2);
+        full.set(9, 1);
+        due.is("group(0, 3)", full.group(0, 3), 3);
+        due.is("the last line", full.at(9), 0);
     }
 
     private static void promise3Read() {
@@ -521,6 +538,9 @@ public final class PromisesTest {
         due.is("drop()", x.drop(), 0);
         due.is("drop()", x.drop(), -4);
         due.is("weight()", x.weight(), 1);
+        due.is("none that count", x.many(3), 0);
+        due.is("sum()", x.sum(), 9);
+        due.is("flat()", x.flat(), 9);
         for (int w = 0; w < 8; w++) {
             due.is("walk(0)", x.walk(0), w);
         }
@@ -618,6 +638,11 @@ public final class PromisesTest {
         dueRow("undone", lineTurns(x), 4, 1, 0, 2);
         TurnBoards bare = withPoints(1);
         due.is("no lines", bare.twist(0, 0), 0);
+        TurnBoards full = fullBoard(0, 5);
+        due.is("twist(0, 2)", full.twist(0, 2), 1);
+        due.is("twist(5, 1)", full.twist(5, 1), 1);
+        due.is("twist(3, 4)", full.twist(3, 4), 2);
+        dueRow("lines", lineTurns(full), 1, 1, 4, 0, 3, 0, 0, 0, 0, 0);
     }
 
     private static void promise19Still() {
@@ -636,6 +661,7 @@ public final class PromisesTest {
         due.is("undo()", x.undo(), 3);
         dueRow("undone", lineTurns(x), 1, 4, 2);
         promise19StillAgainstLines();
+        promise19StillLongWay();
         due.is("a new object", new TurnBoards().still(), 0);
     }
 
@@ -657,6 +683,36 @@ public final class PromisesTest {
         // from 0 on: 2 by back of k: -k; 4 by -k -j: -i; 5 by -i -i: -1; so line 6 has -1 -k: k
         due.is("still()", x.still(), 5);
         dueRow("lines", lineTurns(x), 0, 0, 0, 1, 0, 1, 3);
+    }
+
+    /** Each POINT is reached by the one behind it alone; the least one stays, turned or not. */
+    private static void promise19StillLongWay() {
+        TurnBoards x = fullBoard(1, 4);
+        for (int i = 0; i < 10; i++) {
+            x.set(i, 1 + i % 7);
+        }
+        x.twist(5, 7);
+        x.twist(0, 6);
+        int loop = x.at(5);
+        int other = x.turn(x.at(9), 2);
+        x.still();
+        for (int i = 0; i < 5; i++) {
+            due.is("line " + i, x.at(i), 0);
+        }
+        due.is("loop at the least point", x.at(5), loop);
+        due.is("class of another loop", x.turn(x.at(9), 2), other);
+        x.set(0, 3);
+        due.is("only the last point", x.still(), 1);
+        TurnBoards ahead = withPoints(4);
+        ahead.group(2, 8);
+        int[][] ends = {{0, 1}, {0, 2}, {1, 3}, {2, 3}, {3, 0}};
+        for (int i = 0; i < ends.length; i++) {
+            ahead.line(ends[i][0], ends[i][1]);
+            ahead.set(i, i + 1);
+        }
+        // 1 by i, 2 by j, 3 by i k: -j; so line 3 has j -1 j: 1, line 4 has -j -i: -k
+        due.is("still()", ahead.still(), 5);
+        dueRow("lines", lineTurns(ahead), 0, 0, 0, 0, 7);
     }
 
     private static void promise20Undo() {
@@ -867,6 +923,14 @@ public final class PromisesTest {
         due.is("sum()", x.sum(), 0);
         due.is("sum is 0", x.mean(0, 0, 0), -2);
         due.is("sum is 0", x.mean(0, 0, 1), -2);
+        TurnBoards odd = loops(0, 3, 1, 1);
+        odd.worth(1, 2);
+        odd.worth(2, 4);
+        due.is("nothing shared: numerator", odd.mean(0, 2, 0), 4);
+        due.is("nothing shared: denominator", odd.mean(0, 2, 1), 7);
+        TurnBoards one = loops(0, 1, 1, 1);
+        due.is("sum is 1: numerator", one.mean(0, 0, 0), 1);
+        due.is("sum is 1: denominator", one.mean(0, 0, 1), 1);
         for (int bad : new int[] {-1, 2, MAX, MIN}) {
             due.is("mean(0, 0, " + bad + ")", x.mean(0, 0, bad), -1);
             due.is("mean(" + (bad == 2 ? 1 : bad) + ", 0, 0)", x.mean(bad == 2 ? 1 : bad, 0, 0), -1);
@@ -934,8 +998,10 @@ public final class PromisesTest {
         due.is("new row", x.sheet(0, 0, 64), 1);
         due.is("all cells 0", x.read(0, 0, 63, 1), 1);
         due.is("another lane", x.read(0, 1, 63, 1), -13);
+        x.lay(0, 0, 1);
         x.lay(0, 5, 1);
         x.sheet(0, 0, 3);
+        due.is("the first cell too", x.read(0, 0, 0, 1), 1);
         x.sheet(0, 0, 6);
         due.is("0 also where it was shorter", x.read(0, 0, 5, 1), 1);
     }
