@@ -713,6 +713,16 @@ public final class PromisesTest {
         // 1 by i, 2 by j, 3 by i k: -j; so line 3 has j -1 j: 1, line 4 has -j -i: -k
         due.is("still()", ahead.still(), 5);
         dueRow("lines", lineTurns(ahead), 0, 0, 0, 0, 7);
+        TurnBoards far = withPoints(3);
+        far.group(2, 8);
+        far.line(1, 2);
+        far.line(0, 1);
+        far.line(0, 0);
+        far.set(0, 1);
+        far.set(1, 2);
+        far.set(2, 1);
+        due.is("the tree's far line first", far.still(), 2);
+        dueRow("lines", lineTurns(far), 0, 0, 1);
     }
 
     private static void promise20Undo() {
