@@ -16,6 +16,13 @@ final class Due {
         }
     }
 
+    void row(String call, int[] got, int... want) {
+        is(call + " length", got.length, want.length);
+        for (int i = 0; i < got.length && i < want.length; i++) {
+            is(call + " [" + i + "]", got[i], want[i]);
+        }
+    }
+
     void holds(String claim, boolean so) {
         is(claim, so ? 1 : 0, 1);
     }

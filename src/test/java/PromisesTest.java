@@ -42,99 +42,11 @@ public final class PromisesTest {
         due.end();
     }
 
-    // ---- boards and sheets that several tests use
-
-    private static TurnBoards withPoints(int points) {
-        TurnBoards x = new TurnBoards();
-        for (int p = 0; p < points; p++) {
-            x.point();
-        }
-        return x;
-    }
-
-    /** 0 to 1, 1 to 2, 2 to 0, and a WALK along them. */
-    private static TurnBoards triangle(int kind, int n) {
-        TurnBoards x = withPoints(3);
-        x.group(kind, n);
-        x.line(0, 1);
-        x.line(1, 2);
-        x.line(2, 0);
-        x.walk(0);
-        x.step(0, 0, false);
-        x.step(0, 1, false);
-        x.step(0, 2, false);
-        return x;
-    }
-
-    /** One POINT, LINES from it to itself, a WALK along each of the first ones. */
-    private static TurnBoards loops(int kind, int n, int lines, int walks) {
-        TurnBoards x = withPoints(1);
-        x.group(kind, n);
-        for (int i = 0; i < lines; i++) {
-            x.line(0, 0);
-        }
-        for (int w = 0; w < walks; w++) {
-            x.walk(0);
-            x.step(w, w, false);
-        }
-        return x;
-    }
-
-    /** All POINTS in a row, joined from the last to the first, and all LINES. */
-    private static TurnBoards fullBoard(int kind, int n) {
-        TurnBoards x = withPoints(6);
-        x.group(kind, n);
-        for (int p = 5; p > 0; p--) {
-            x.line(p, p - 1);
-        }
-        for (int i = 0; i < 5; i++) {
-            x.line(i, i);
-        }
-        return x;
-    }
-
-    private static void layAll(TurnBoards x, int k, int from, int... cells) {
-        for (int i = 0; i < cells.length; i++) {
-            due.is("lay", x.lay(k, from + i, cells[i]), 1);
-        }
-    }
-
     private static TurnBoards withSheet(int lane, int... cells) {
         TurnBoards x = new TurnBoards();
         x.sheet(0, lane, cells.length);
-        layAll(x, 0, 0, cells);
+        Boards.layAll(x, 0, 0, cells);
         return x;
-    }
-
-    private static void dueRow(String call, int[] got, int... want) {
-        due.is(call + " length", got.length, want.length);
-        for (int i = 0; i < got.length && i < want.length; i++) {
-            due.is(call + " [" + i + "]", got[i], want[i]);
-        }
-    }
-
-    private static int[] lineTurns(TurnBoards x) {
-        int[] turns = new int[x.many(1)];
-        for (int i = 0; i < turns.length; i++) {
-            turns[i] = x.at(i);
-        }
-        return turns;
-    }
-
-    private static int[] ofTurns(TurnBoards x, int what) {
-        int[] found = new int[x.about(0)];
-        for (int a = 0; a < found.length; a++) {
-            found[a] = x.turn(a, what);
-        }
-        return found;
-    }
-
-    private static int[] ofGroup(TurnBoards x) {
-        int[] found = new int[5];
-        for (int what = 0; what < 5; what++) {
-            found[what] = x.about(what);
-        }
-        return found;
     }
 
     // ---- the group
@@ -142,7 +54,7 @@ public final class PromisesTest {
     private static void promise1NewObject() {
         due.part("1 new object");
         TurnBoards x = new TurnBoards();
-        dueRow("about", ofGroup(x), 1, 1, 1, 1, 1);
+        due.row("about", Boards.ofGroup(x), 1, 1, 1, 1, 1);
         due.is("times(0, 0)", x.times(0, 0), 0);
         due.is("times(1, 0)", x.times(1, 0), -1);
         due.is("worth of 0", x.turn(0, 4), 1);
@@ -195,22 +107,22 @@ public final class PromisesTest {
 
     private static void promise2GroupChangesOtherThings() {
         due.part("2 group, the rest");
-        TurnBoards x = triangle(0, 4);
+        TurnBoards x = Boards.triangle(0, 4);
         x.set(0, 3);
         x.set(2, 2);
         x.worth(3, 7);
         due.is("group(1, 9)", x.group(1, 9), -1);
-        dueRow("refused: lines", lineTurns(x), 3, 0, 2);
+        due.row("refused: lines", Boards.lineTurns(x), 3, 0, 2);
         due.is("refused: worth", x.turn(3, 4), 7);
         due.is("refused: acts", x.many(6), 2);
         due.is("group(0, 4)", x.group(0, 4), 4);
-        dueRow("lines", lineTurns(x), 0, 0, 0);
-        dueRow("worths", ofTurns(x, 4), 1, 1, 1, 1);
+        due.row("lines", Boards.lineTurns(x), 0, 0, 0);
+        due.row("worths", Boards.ofTurns(x, 4), 1, 1, 1, 1);
         due.is("acts", x.many(6), 0);
         due.is("undo()", x.undo(), -4);
         due.is("points stay", x.many(0), 3);
         due.is("walks stay", x.told(0, 0), 3);
-        TurnBoards full = fullBoard(0, 2);
+        TurnBoards full = Boards.fullBoard(0, 2);
         full.set(9, 1);
         due.is("group(0, 3)", full.group(0, 3), 3);
         due.is("the last line", full.at(9), 0);
@@ -234,7 +146,7 @@ public final class PromisesTest {
         }
         TurnBoards x = withSheet(1, 0, 1, 2, 3, 1, 0, 3, 2, 2, 3, 0, 1, 3, 2, 1, 0);
         due.is("four that undo themselves", x.read(0, 1, 0, 4), 4);
-        dueRow("orders", ofTurns(x, 1), 1, 2, 2, 2);
+        due.row("orders", Boards.ofTurns(x, 1), 1, 2, 2, 2);
         // rows and columns are told apart only by a group in which they differ
         TurnBoards flips = new TurnBoards();
         flips.group(1, 4);
@@ -246,7 +158,7 @@ public final class PromisesTest {
         due.is("a sheet used to its last cell", flips.read(3, 2, 0, 8), 8);
         due.is("times(4, 1)", flips.times(4, 1), 7);
         due.is("times(1, 4)", flips.times(1, 4), 5);
-        dueRow("classes", ofTurns(flips, 2), 0, 1, 2, 1, 4, 5, 4, 5);
+        due.row("classes", Boards.ofTurns(flips, 2), 0, 1, 2, 1, 4, 5, 4, 5);
     }
 
     private static void promise3ReadFaults() {
@@ -274,9 +186,9 @@ public final class PromisesTest {
         }
         due.is("index at the last cell", x.read(0, 0, 1, 2), -12);
         due.is("no turn ahead of index", x.read(0, 0, 1, 1), -100);
-        layAll(x, 0, 3, 2);
+        Boards.layAll(x, 0, 3, 2);
         due.is("no turn, the last", x.read(0, 0, 0, 2), -103);
-        layAll(x, 0, 2, -1);
+        Boards.layAll(x, 0, 2, -1);
         due.is("no turn, the first met", x.read(0, 0, 0, 2), -102);
         due.is("no turn ahead of the sheet's end", x.read(0, 0, 0, 3), -102);
         x.sheet(2, 2, 0);
@@ -338,20 +250,20 @@ public final class PromisesTest {
         due.part("5 turn");
         TurnBoards x = new TurnBoards();
         x.group(1, 4);
-        dueRow("backs", ofTurns(x, 0), 0, 3, 2, 1, 4, 5, 6, 7);
-        dueRow("orders", ofTurns(x, 1), 1, 4, 2, 4, 2, 2, 2, 2);
-        dueRow("classes", ofTurns(x, 2), 0, 1, 2, 1, 4, 5, 4, 5);
-        dueRow("class sizes", ofTurns(x, 3), 1, 2, 1, 2, 2, 2, 2, 2);
-        dueRow("worths", ofTurns(x, 4), 1, 1, 1, 1, 1, 1, 1, 1);
-        dueRow("alike with", ofTurns(x, 5), 8, 4, 8, 4, 4, 4, 4, 4);
+        due.row("backs", Boards.ofTurns(x, 0), 0, 3, 2, 1, 4, 5, 6, 7);
+        due.row("orders", Boards.ofTurns(x, 1), 1, 4, 2, 4, 2, 2, 2, 2);
+        due.row("classes", Boards.ofTurns(x, 2), 0, 1, 2, 1, 4, 5, 4, 5);
+        due.row("class sizes", Boards.ofTurns(x, 3), 1, 2, 1, 2, 2, 2, 2, 2);
+        due.row("worths", Boards.ofTurns(x, 4), 1, 1, 1, 1, 1, 1, 1, 1);
+        due.row("alike with", Boards.ofTurns(x, 5), 8, 4, 8, 4, 4, 4, 4, 4);
         x.group(2, 8);
-        dueRow("backs", ofTurns(x, 0), 0, 5, 6, 7, 4, 1, 2, 3);
-        dueRow("orders", ofTurns(x, 1), 1, 4, 4, 4, 2, 4, 4, 4);
-        dueRow("classes", ofTurns(x, 2), 0, 1, 2, 3, 4, 1, 2, 3);
+        due.row("backs", Boards.ofTurns(x, 0), 0, 5, 6, 7, 4, 1, 2, 3);
+        due.row("orders", Boards.ofTurns(x, 1), 1, 4, 4, 4, 2, 4, 4, 4);
+        due.row("classes", Boards.ofTurns(x, 2), 0, 1, 2, 3, 4, 1, 2, 3);
         x.group(0, 8);
-        dueRow("orders", ofTurns(x, 1), 1, 8, 4, 8, 2, 8, 4, 8);
-        dueRow("class sizes", ofTurns(x, 3), 1, 1, 1, 1, 1, 1, 1, 1);
-        dueRow("alike with", ofTurns(x, 5), 8, 8, 8, 8, 8, 8, 8, 8);
+        due.row("orders", Boards.ofTurns(x, 1), 1, 8, 4, 8, 2, 8, 4, 8);
+        due.row("class sizes", Boards.ofTurns(x, 3), 1, 1, 1, 1, 1, 1, 1, 1);
+        due.row("alike with", Boards.ofTurns(x, 5), 8, 8, 8, 8, 8, 8, 8, 8);
         for (int bad : new int[] {-1, 8, MAX, MIN}) {
             due.is("turn(" + bad + ", 0)", x.turn(bad, 0), -1);
         }
@@ -366,13 +278,13 @@ public final class PromisesTest {
         due.part("6 about");
         TurnBoards x = new TurnBoards();
         x.group(0, 7);
-        dueRow("ring of 7", ofGroup(x), 7, 7, 7, 49, 1);
+        due.row("ring of 7", Boards.ofGroup(x), 7, 7, 7, 49, 1);
         x.group(1, 3);
-        dueRow("flips of 3", ofGroup(x), 6, 3, 1, 18, 0);
+        due.row("flips of 3", Boards.ofGroup(x), 6, 3, 1, 18, 0);
         x.group(1, 4);
-        dueRow("flips of 4", ofGroup(x), 8, 5, 2, 40, 0);
+        due.row("flips of 4", Boards.ofGroup(x), 8, 5, 2, 40, 0);
         x.group(2, 8);
-        dueRow("crossed", ofGroup(x), 8, 5, 2, 40, 0);
+        due.row("crossed", Boards.ofGroup(x), 8, 5, 2, 40, 0);
         for (int bad : new int[] {-1, 5, MAX, MIN}) {
             due.is("about(" + bad + ")", x.about(bad), -1);
         }
@@ -385,14 +297,14 @@ public final class PromisesTest {
         due.is("worth(5, 9)", x.worth(5, 9), 1);
         due.is("worth(1, 0)", x.worth(1, 0), 9);
         due.is("worth(2, 4)", x.worth(2, 4), 1);
-        dueRow("worths", ofTurns(x, 4), 1, 0, 4, 1, 1, 0, 4, 1);
+        due.row("worths", Boards.ofTurns(x, 4), 1, 0, 4, 1, 1, 0, 4, 1);
         for (int bad : new int[] {-1, 8, MAX, MIN}) {
             due.is("worth(" + bad + ", 1)", x.worth(bad, 1), -1);
         }
         for (int bad : new int[] {-1, 10, MAX, MIN}) {
             due.is("worth(2, " + bad + ")", x.worth(2, bad), -1);
         }
-        dueRow("refused", ofTurns(x, 4), 1, 0, 4, 1, 1, 0, 4, 1);
+        due.row("refused", Boards.ofTurns(x, 4), 1, 0, 4, 1, 1, 0, 4, 1);
         due.is("no act", x.many(6), 0);
     }
 
@@ -411,7 +323,7 @@ public final class PromisesTest {
 
     private static void promise9Line() {
         due.part("9 line");
-        TurnBoards x = withPoints(2);
+        TurnBoards x = Boards.withPoints(2);
         for (int bad : new int[] {-1, 2, 6, MAX, MIN}) {
             due.is("line(" + bad + ", 0)", x.line(bad, 0), -1);
             due.is("line(0, " + bad + ")", x.line(0, bad), -1);
@@ -428,7 +340,7 @@ public final class PromisesTest {
 
     private static void promise10Walk() {
         due.part("10 walk");
-        TurnBoards x = withPoints(3);
+        TurnBoards x = Boards.withPoints(3);
         for (int bad : new int[] {-1, 3, MAX, MIN}) {
             due.is("walk(" + bad + ")", x.walk(bad), -1);
         }
@@ -444,7 +356,7 @@ public final class PromisesTest {
 
     private static void promise11Step() {
         due.part("11 step");
-        TurnBoards x = withPoints(3);
+        TurnBoards x = Boards.withPoints(3);
         x.line(0, 1);
         x.line(1, 2);
         x.walk(0);
@@ -470,7 +382,7 @@ public final class PromisesTest {
         due.is("full", x.step(0, 1, true), -3);
         due.is("refused", x.told(0, 0), 6);
         due.is("refused", x.told(0, 1), 2);
-        TurnBoards loop = loops(0, 3, 1, 0);
+        TurnBoards loop = Boards.loops(0, 3, 1, 0);
         loop.walk(0);
         due.is("loop", loop.step(0, 0, false), 1);
         due.is("loop, back", loop.step(0, 0, true), 2);
@@ -478,7 +390,7 @@ public final class PromisesTest {
 
     private static void promise12Counts() {
         due.part("12 counts");
-        TurnBoards x = loops(0, 3, 2, 2);
+        TurnBoards x = Boards.loops(0, 3, 2, 2);
         x.worth(0, 5);
         due.is("weight()", x.weight(), 25);
         due.is("counts(1, false)", x.counts(1, false), 1);
@@ -495,7 +407,7 @@ public final class PromisesTest {
 
     private static void promise13Told() {
         due.part("13 told");
-        TurnBoards x = triangle(1, 3);
+        TurnBoards x = Boards.triangle(1, 3);
         x.set(0, 1);
         x.set(1, 3);
         x.set(2, 2);
@@ -526,7 +438,7 @@ public final class PromisesTest {
 
     private static void promise14Drop() {
         due.part("14 drop");
-        TurnBoards x = loops(0, 3, 2, 2);
+        TurnBoards x = Boards.loops(0, 3, 2, 2);
         x.counts(1, false);
         due.is("drop()", x.drop(), 1);
         due.is("told(1, 0)", x.told(1, 0), -1);
@@ -551,11 +463,11 @@ public final class PromisesTest {
 
     private static void promise15Set() {
         due.part("15 set");
-        TurnBoards x = triangle(0, 4);
+        TurnBoards x = Boards.triangle(0, 4);
         due.is("set(1, 3)", x.set(1, 3), 0);
         due.is("set(1, 2)", x.set(1, 2), 3);
         due.is("set(1, 2)", x.set(1, 2), 2);
-        dueRow("lines", lineTurns(x), 0, 2, 0);
+        due.row("lines", Boards.lineTurns(x), 0, 2, 0);
         due.is("acts", x.many(6), 3);
         for (int bad : new int[] {-1, 3, 10, MAX, MIN}) {
             due.is("set(" + bad + ", 0)", x.set(bad, 0), -1);
@@ -563,13 +475,13 @@ public final class PromisesTest {
         for (int bad : new int[] {-1, 4, 8, MAX, MIN}) {
             due.is("set(1, " + bad + ")", x.set(1, bad), -1);
         }
-        dueRow("refused", lineTurns(x), 0, 2, 0);
+        due.row("refused", Boards.lineTurns(x), 0, 2, 0);
         due.is("refused: acts", x.many(6), 3);
     }
 
     private static void promise16At() {
         due.part("16 at");
-        TurnBoards x = triangle(0, 4);
+        TurnBoards x = Boards.triangle(0, 4);
         x.set(2, 3);
         due.is("at(0)", x.at(0), 0);
         due.is("at(2)", x.at(2), 3);
@@ -580,7 +492,7 @@ public final class PromisesTest {
 
     private static void promise17Weight() {
         due.part("17 weight");
-        TurnBoards x = loops(0, 8, 8, 8);
+        TurnBoards x = Boards.loops(0, 8, 8, 8);
         for (int a = 0; a < 8; a++) {
             x.worth(a, a + 2);
         }
@@ -595,7 +507,7 @@ public final class PromisesTest {
         due.is("one of none", x.weight(), 0);
         x.counts(0, false);
         due.is("that does not count", x.weight(), 4782969);
-        TurnBoards open = triangle(0, 3);
+        TurnBoards open = Boards.triangle(0, 3);
         open.worth(0, 7);
         open.walk(0);
         due.is("no steps", open.weight(), 7);
@@ -607,7 +519,7 @@ public final class PromisesTest {
 
     private static void promise18Twist() {
         due.part("18 twist");
-        TurnBoards x = triangle(1, 3);
+        TurnBoards x = Boards.triangle(1, 3);
         x.line(1, 1);
         x.set(0, 1);
         x.set(1, 4);
@@ -617,12 +529,12 @@ public final class PromisesTest {
         x.worth(3, 5);
         // to 1: 1 3 is 4; from 1: 3 4 is 2; at 1: 3 1 is 5, 5 3 is 2
         due.is("twist(1, 3)", x.twist(1, 3), 3);
-        dueRow("lines", lineTurns(x), 4, 2, 2, 2);
+        due.row("lines", Boards.lineTurns(x), 4, 2, 2, 2);
         due.is("act", x.many(6), 5);
         due.is("weight stays", x.weight(), 5);
         // 2 turns by 1: to it 2 2 is 1, from it 1 2 is 0
         due.is("twist(2, 1)", x.twist(2, 1), 2);
-        dueRow("lines", lineTurns(x), 4, 1, 0, 2);
+        due.row("lines", Boards.lineTurns(x), 4, 1, 0, 2);
         due.is("by 0", x.twist(1, 0), 0);
         due.is("an act all the same", x.many(6), 7);
         // 1 turned by 1 leaves 2 at the loop as it is
@@ -635,31 +547,31 @@ public final class PromisesTest {
         }
         due.is("refused: acts", x.many(6), 8);
         due.is("undo()", x.undo(), 7);
-        dueRow("undone", lineTurns(x), 4, 1, 0, 2);
-        TurnBoards bare = withPoints(1);
+        due.row("undone", Boards.lineTurns(x), 4, 1, 0, 2);
+        TurnBoards bare = Boards.withPoints(1);
         due.is("no lines", bare.twist(0, 0), 0);
-        TurnBoards full = fullBoard(0, 5);
+        TurnBoards full = Boards.fullBoard(0, 5);
         due.is("twist(0, 2)", full.twist(0, 2), 1);
         due.is("twist(5, 1)", full.twist(5, 1), 1);
         due.is("twist(3, 4)", full.twist(3, 4), 2);
-        dueRow("lines", lineTurns(full), 1, 1, 4, 0, 3, 0, 0, 0, 0, 0);
+        due.row("lines", Boards.lineTurns(full), 1, 1, 4, 0, 3, 0, 0, 0, 0, 0);
     }
 
     private static void promise19Still() {
         due.part("19 still");
-        TurnBoards x = triangle(1, 3);
+        TurnBoards x = Boards.triangle(1, 3);
         x.set(0, 1);
         x.set(1, 4);
         x.set(2, 2);
         // 1 is turned by 1, 2 by 1 4, that is 5; then line 2 has 5 2, that is 3
         due.is("still()", x.still(), 3);
-        dueRow("lines", lineTurns(x), 0, 0, 3);
+        due.row("lines", Boards.lineTurns(x), 0, 0, 3);
         due.is("acts", x.many(6), 4);
         due.is("nothing more", x.still(), 0);
         due.is("an act all the same", x.many(6), 5);
         due.is("undo()", x.undo(), 4);
         due.is("undo()", x.undo(), 3);
-        dueRow("undone", lineTurns(x), 1, 4, 2);
+        due.row("undone", Boards.lineTurns(x), 1, 4, 2);
         promise19StillAgainstLines();
         promise19StillLongWay();
         due.is("a new object", new TurnBoards().still(), 0);
@@ -667,7 +579,7 @@ public final class PromisesTest {
 
     /** Two PARTS; THE TREE is met from its far end, LINES go against the way. */
     private static void promise19StillAgainstLines() {
-        TurnBoards x = withPoints(6);
+        TurnBoards x = Boards.withPoints(6);
         x.group(2, 8);
         x.line(5, 4);
         x.line(4, 2);
@@ -682,12 +594,12 @@ public final class PromisesTest {
         }
         // from 0 on: 2 by back of k: -k; 4 by -k -j: -i; 5 by -i -i: -1; so line 6 has -1 -k: k
         due.is("still()", x.still(), 5);
-        dueRow("lines", lineTurns(x), 0, 0, 0, 1, 0, 1, 3);
+        due.row("lines", Boards.lineTurns(x), 0, 0, 0, 1, 0, 1, 3);
     }
 
     /** Each POINT is reached by the one behind it alone; the least one stays, turned or not. */
     private static void promise19StillLongWay() {
-        TurnBoards x = fullBoard(1, 4);
+        TurnBoards x = Boards.fullBoard(1, 4);
         for (int i = 0; i < 10; i++) {
             x.set(i, 1 + i % 7);
         }
@@ -703,7 +615,7 @@ public final class PromisesTest {
         due.is("class of another loop", x.turn(x.at(9), 2), other);
         x.set(0, 3);
         due.is("only the last point", x.still(), 1);
-        TurnBoards ahead = withPoints(4);
+        TurnBoards ahead = Boards.withPoints(4);
         ahead.group(2, 8);
         int[][] ends = {{0, 1}, {0, 2}, {1, 3}, {2, 3}, {3, 0}};
         for (int i = 0; i < ends.length; i++) {
@@ -712,8 +624,8 @@ public final class PromisesTest {
         }
         // 1 by i, 2 by j, 3 by i k: -j; so line 3 has j -1 j: 1, line 4 has -j -i: -k
         due.is("still()", ahead.still(), 5);
-        dueRow("lines", lineTurns(ahead), 0, 0, 0, 0, 7);
-        TurnBoards far = withPoints(3);
+        due.row("lines", Boards.lineTurns(ahead), 0, 0, 0, 0, 7);
+        TurnBoards far = Boards.withPoints(3);
         far.group(2, 8);
         far.line(1, 2);
         far.line(0, 1);
@@ -722,46 +634,46 @@ public final class PromisesTest {
         far.set(1, 2);
         far.set(2, 1);
         due.is("the tree's far line first", far.still(), 2);
-        dueRow("lines", lineTurns(far), 0, 0, 1);
+        due.row("lines", Boards.lineTurns(far), 0, 0, 1);
     }
 
     private static void promise20Undo() {
         due.part("20 undo");
-        TurnBoards x = triangle(0, 5);
+        TurnBoards x = Boards.triangle(0, 5);
         due.is("undo()", x.undo(), -4);
         x.set(0, 2);
         x.twist(1, 3);
         x.still();
         x.sheet(0, 0, 3);
-        layAll(x, 0, 0, 4, 0, 3);
-        int[] stilled = lineTurns(x);
+        Boards.layAll(x, 0, 0, 4, 0, 3);
+        int[] stilled = Boards.lineTurns(x);
         due.is("fill", x.fill(0, 0, 0), 2);
         due.is("many(6)", x.many(6), 5);
         due.is("undo()", x.undo(), 4);
-        dueRow("one line of fill", lineTurns(x), 4, 0, stilled[2]);
+        due.row("one line of fill", Boards.lineTurns(x), 4, 0, stilled[2]);
         due.is("undo()", x.undo(), 3);
-        dueRow("both", lineTurns(x), stilled);
+        due.row("both", Boards.lineTurns(x), stilled);
         due.is("undo()", x.undo(), 2);
-        dueRow("still", lineTurns(x), 4, 3, 0);
+        due.row("still", Boards.lineTurns(x), 4, 3, 0);
         due.is("undo()", x.undo(), 1);
-        dueRow("twist", lineTurns(x), 2, 0, 0);
+        due.row("twist", Boards.lineTurns(x), 2, 0, 0);
         x.set(2, 1);
         due.is("undo()", x.undo(), 1);
         due.is("undo()", x.undo(), 0);
-        dueRow("set", lineTurns(x), 0, 0, 0);
+        due.row("set", Boards.lineTurns(x), 0, 0, 0);
         due.is("undo()", x.undo(), -4);
         // what came behind the act and is no act stays
         x.twist(0, 2);
         x.line(0, 1);
         x.worth(1, 3);
         due.is("undo()", x.undo(), 0);
-        dueRow("lines", lineTurns(x), 0, 0, 0, 0);
+        due.row("lines", Boards.lineTurns(x), 0, 0, 0, 0);
         due.is("worth", x.turn(1, 4), 3);
     }
 
     private static void promise20UndoKeepsEight() {
         due.part("20 undo, eight");
-        TurnBoards x = triangle(0, 8);
+        TurnBoards x = Boards.triangle(0, 8);
         for (int i = 1; i <= 11; i++) {
             x.set(i % 3, i % 8);
             due.is("many(6)", x.many(6), Math.min(i, 8));
@@ -770,21 +682,21 @@ public final class PromisesTest {
             due.is("undo()", x.undo(), left);
         }
         due.is("undo()", x.undo(), -4);
-        dueRow("the first three stay done", lineTurns(x), 3, 1, 2);
-        TurnBoards wide = loops(0, 2, 10, 0);
+        due.row("the first three stay done", Boards.lineTurns(x), 3, 1, 2);
+        TurnBoards wide = Boards.loops(0, 2, 10, 0);
         wide.sheet(1, 1, 10);
-        layAll(wide, 1, 0, 1, 1, 1, 1, 1, 1, 1, 1, 1, 1);
+        Boards.layAll(wide, 1, 0, 1, 1, 1, 1, 1, 1, 1, 1, 1, 1);
         due.is("fill", wide.fill(1, 1, 0), 10);
         due.is("many(6)", wide.many(6), 8);
         for (int left = 7; left >= 0; left--) {
             due.is("undo()", wide.undo(), left);
         }
-        dueRow("the first two stay filled", lineTurns(wide), 1, 1, 0, 0, 0, 0, 0, 0, 0, 0);
+        due.row("the first two stay filled", Boards.lineTurns(wide), 1, 1, 0, 0, 0, 0, 0, 0, 0, 0);
     }
 
     private static void promise21Tree() {
         due.part("21 tree");
-        TurnBoards x = withPoints(5);
+        TurnBoards x = Boards.withPoints(5);
         int[][] ends = {{1, 1}, {3, 4}, {4, 3}, {0, 1}, {1, 3}, {0, 4}, {2, 2}, {4, 2}, {2, 0}};
         int[] want = {0, 1, 0, 1, 1, 0, 0, 1, 0};
         for (int i = 0; i < ends.length; i++) {
@@ -804,7 +716,7 @@ public final class PromisesTest {
 
     private static void promise22Sum() {
         due.part("22 sum");
-        TurnBoards x = triangle(0, 3);
+        TurnBoards x = Boards.triangle(0, 3);
         due.is("all ways", x.sum(), 27);
         x.worth(0, 2);
         x.worth(1, 5);
@@ -826,7 +738,7 @@ public final class PromisesTest {
         due.is("a line more of the tree", x.sum(), 189);
         x.line(3, 3);
         due.is("a line more besides", x.sum(), 567);
-        TurnBoards twice = loops(1, 3, 1, 0);
+        TurnBoards twice = Boards.loops(1, 3, 1, 0);
         twice.walk(0);
         twice.step(0, 0, false);
         twice.step(0, 0, false);
@@ -840,7 +752,7 @@ public final class PromisesTest {
         due.part("22 sum, spent");
         int[][] most = {{1, 10}, {2, 10}, {3, 9}, {4, 7}, {5, 6}, {6, 5}, {7, 5}, {8, 5}};
         for (int[] each : most) {
-            TurnBoards x = loops(0, each[0], each[1], 1);
+            TurnBoards x = Boards.loops(0, each[0], each[1], 1);
             long ways = 1;
             for (int i = 0; i < each[1]; i++) {
                 ways *= each[0];
@@ -852,12 +764,12 @@ public final class PromisesTest {
             if (each[1] < 10) {
                 due.is("a line of the tree more", x.sum(), ways * each[0]);
             }
-            TurnBoards more = loops(0, each[0], each[1] + 1, 1);
+            TurnBoards more = Boards.loops(0, each[0], each[1] + 1, 1);
             if (each[1] < 10) {
                 due.is("sum of " + each[0], more.sum(), -6);
             }
         }
-        TurnBoards x = withPoints(6);
+        TurnBoards x = Boards.withPoints(6);
         x.group(2, 8);
         for (int p = 0; p < 5; p++) {
             x.line(p, p + 1);
@@ -881,7 +793,7 @@ public final class PromisesTest {
 
     private static void promise23SumBy() {
         due.part("23 sumBy");
-        TurnBoards x = triangle(1, 3);
+        TurnBoards x = Boards.triangle(1, 3);
         x.worth(1, 2);
         x.worth(3, 3);
         due.is("by 0", x.sumBy(0, 0), 36);
@@ -903,7 +815,7 @@ public final class PromisesTest {
         for (int bad : new int[] {-1, 6, 8, MAX, MIN}) {
             due.is("sumBy(0, " + bad + ")", x.sumBy(0, bad), -1);
         }
-        TurnBoards spent = loops(0, 8, 6, 1);
+        TurnBoards spent = Boards.loops(0, 8, 6, 1);
         due.is("bad ahead of spent", spent.sumBy(1, 0), -1);
         due.is("bad ahead of spent", spent.sumBy(0, 8), -1);
         due.is("spent", spent.sumBy(0, 0), -6);
@@ -913,7 +825,7 @@ public final class PromisesTest {
 
     private static void promise24Mean() {
         due.part("24 mean");
-        TurnBoards x = triangle(1, 3);
+        TurnBoards x = Boards.triangle(1, 3);
         x.worth(1, 2);
         x.worth(3, 3);
         // 1 to 4 to 9, of 14
@@ -933,12 +845,12 @@ public final class PromisesTest {
         due.is("sum()", x.sum(), 0);
         due.is("sum is 0", x.mean(0, 0, 0), -2);
         due.is("sum is 0", x.mean(0, 0, 1), -2);
-        TurnBoards odd = loops(0, 3, 1, 1);
+        TurnBoards odd = Boards.loops(0, 3, 1, 1);
         odd.worth(1, 2);
         odd.worth(2, 4);
         due.is("nothing shared: numerator", odd.mean(0, 2, 0), 4);
         due.is("nothing shared: denominator", odd.mean(0, 2, 1), 7);
-        TurnBoards one = loops(0, 1, 1, 1);
+        TurnBoards one = Boards.loops(0, 1, 1, 1);
         due.is("sum is 1: numerator", one.mean(0, 0, 0), 1);
         due.is("sum is 1: denominator", one.mean(0, 0, 1), 1);
         for (int bad : new int[] {-1, 2, MAX, MIN}) {
@@ -949,7 +861,7 @@ public final class PromisesTest {
         x.walk(0);
         x.step(1, 0, false);
         due.is("not closed", x.mean(1, 0, 0), -1);
-        TurnBoards spent = loops(0, 8, 6, 1);
+        TurnBoards spent = Boards.loops(0, 8, 6, 1);
         due.is("bad ahead of spent", spent.mean(0, 0, 2), -1);
         due.is("spent", spent.mean(0, 0, 1), -6);
         for (int a = 0; a < 8; a++) {
@@ -960,13 +872,13 @@ public final class PromisesTest {
 
     private static void promise25Flat() {
         due.part("25 flat");
-        TurnBoards x = triangle(1, 3);
+        TurnBoards x = Boards.triangle(1, 3);
         due.is("one walk", x.flat(), 36);
         x.worth(0, 0);
         due.is("worths are no matter", x.flat(), 36);
         x.counts(0, false);
         due.is("does not count", x.flat(), 216);
-        TurnBoards pairs = loops(1, 3, 2, 0);
+        TurnBoards pairs = Boards.loops(1, 3, 2, 0);
         pairs.walk(0);
         due.is("no steps", pairs.flat(), 36);
         pairs.step(0, 0, false);
@@ -975,7 +887,7 @@ public final class PromisesTest {
         pairs.step(0, 1, true);
         due.is("pairs that go alike", pairs.flat(), 18);
         due.is("told by about()", pairs.flat(), pairs.about(3));
-        due.is("spent", loops(0, 6, 6, 1).flat(), -6);
+        due.is("spent", Boards.loops(0, 6, 6, 1).flat(), -6);
     }
 
     // ---- sheets
@@ -1042,7 +954,7 @@ public final class PromisesTest {
 
     /** What a CELL of a lane has after v is laid, or -21 if that is no TURN. */
     private static void dueLowBits(int lane, int v, int want) {
-        TurnBoards x = loops(0, 8, 2, 0);
+        TurnBoards x = Boards.loops(0, 8, 2, 0);
         x.sheet(2, lane, 2);
         x.lay(2, 1, v);
         int filled = x.fill(2, lane, 0);
@@ -1052,19 +964,19 @@ public final class PromisesTest {
     private static void promise28Fill() {
         due.part("28 fill");
         for (int lane = 0; lane < 3; lane++) {
-            TurnBoards x = triangle(0, 8);
+            TurnBoards x = Boards.triangle(0, 8);
             x.set(1, 5);
             x.sheet(3, lane, 5);
-            layAll(x, 3, 1, 7, 5, 2);
+            Boards.layAll(x, 3, 1, 7, 5, 2);
             due.is("fill", x.fill(3, lane, 1), 2);
-            dueRow("lines", lineTurns(x), 7, 5, 2);
+            due.row("lines", Boards.lineTurns(x), 7, 5, 2);
             due.is("acts", x.many(6), 3);
             due.is("again", x.fill(3, lane, 1), 0);
             due.is("no acts", x.many(6), 3);
             due.is("undo()", x.undo(), 2);
-            dueRow("the last line first", lineTurns(x), 7, 5, 0);
+            due.row("the last line first", Boards.lineTurns(x), 7, 5, 0);
             due.is("undo()", x.undo(), 1);
-            dueRow("then the first", lineTurns(x), 0, 5, 0);
+            due.row("then the first", Boards.lineTurns(x), 0, 5, 0);
         }
         TurnBoards bare = new TurnBoards();
         due.is("no lines, nothing", bare.fill(0, 0, 0), -11);
@@ -1075,9 +987,9 @@ public final class PromisesTest {
 
     private static void promise28FillFaults() {
         due.part("28 fill, faults");
-        TurnBoards x = triangle(0, 4);
+        TurnBoards x = Boards.triangle(0, 4);
         x.sheet(0, 1, 4);
-        layAll(x, 0, 0, 1, 2, 3, 4);
+        Boards.layAll(x, 0, 0, 1, 2, 3, 4);
         for (int bad : new int[] {-1, 4, MAX, MIN}) {
             due.is("fill(" + bad + ", 0, 0)", x.fill(bad, 0, 0), -1);
         }
@@ -1098,13 +1010,13 @@ public final class PromisesTest {
         due.is("index at the last", x.fill(0, 1, 2), -12);
         x.lay(0, 1, -1);
         due.is("below 0", x.fill(0, 1, 0), -21);
-        dueRow("none changed", lineTurns(x), 0, 0, 0);
+        due.row("none changed", Boards.lineTurns(x), 0, 0, 0);
         due.is("no acts", x.many(6), 0);
     }
 
     private static void promise29Many() {
         due.part("29 many");
-        TurnBoards x = withPoints(6);
+        TurnBoards x = Boards.withPoints(6);
         x.group(0, 3);
         x.line(0, 1);
         x.line(1, 0);
